@@ -135,7 +135,7 @@ public final class KeyKeepers {
             case 5: return stand.hasToken(i) ? 1 : 0;
             case 6: return tree ? stand.of(i, Stand.HOLDER) : NONE;
             case 7: return tree ? stand.of(i, Stand.HAS_ASKED) : 0;
-            case 8: return tree ? stand.of(i, Stand.QUEUE) : 0;
+            case 8: return tree ? stand.get(Stand.queueOf(i)) : 0;
             case 9: return tree && i > 0 ? stand.of(i, Stand.PARENT) : NONE;
             default: return BAD;
         }
@@ -149,9 +149,10 @@ public final class KeyKeepers {
             return NONE;
         }
         if (stand.way == TOKEN) {
-            return stand.of(i, Stand.KNOWN + j);
+            return stand.known(i, j);
         }
-        return j < stand.of(i, Stand.QUEUE) ? stand.of(i, Stand.QUEUE + 1 + j) : NONE;
+        int queue = Stand.queueOf(i);
+        return j < stand.get(queue) ? stand.get(queue + 1 + j) : NONE;
     }
 
     public int token(int what, int k) {
@@ -232,7 +233,7 @@ public final class KeyKeepers {
         if (stand.way == ASKING) {
             return stand.of(i, Stand.TIME);
         }
-        return stand.way == TOKEN ? stand.of(i, Stand.KNOWN + i) : 0;
+        return stand.way == TOKEN ? stand.known(i, i) : 0;
     }
 
     /** Brings the eldest letter from i to j, as an act: its kind, or FULL. */
@@ -256,24 +257,35 @@ public final class KeyKeepers {
 
     /**
      * What keepers, letters and the token have, then the counts: all in one row,
-     * so that it is copied, kept, compared and taken back at once.
-     * A list in the row is its length and, behind it, its places; free places are 0,
-     * so that like states are like rows.
+     * so that it is copied, kept and taken back at once.
+     * A field stands there for all keepers, one behind the other, first the MODE and then
+     * the fields of each way, so that only those of the way that there is need be compared.
+     * A list in the row is its length and, behind it, its places.
      */
     private static final class Stand {
         static final int MOST = 6;
         static final int MOST_UNDER_WAY = 12;
 
-        static final int MODE = 0, CLOCK = 1, TIME = 2, GAVE = 3, OFF = 4;
-        static final int PARENT = 5, HOLDER = 6, HAS_ASKED = 7, QUEUE = 8;
-        static final int KNOWN = QUEUE + 1 + MOST;
-        static final int KEEPER_PART = KNOWN + MOST;
+        static final int MODE = 0;
 
-        static final int PLACE = MOST * KEEPER_PART;
+        static final int CLOCK = MODE + MOST;
+        static final int TIME = CLOCK + MOST;
+        static final int GAVE = TIME + MOST;
+        static final int OFF = GAVE + MOST;
+
+        static final int PLACE = OFF + MOST;
         static final int STANDS = PLACE + 1;
         static final int ROW = STANDS + MOST;
-        static final int LETTERS = ROW + 1 + MOST;
-        static final int PAIR_PART = 1 + MOST_UNDER_WAY;
+        private static final int KNOWN = ROW + 1 + MOST;
+
+        static final int PARENT = KNOWN + MOST * MOST;
+        static final int HOLDER = PARENT + MOST;
+        static final int HAS_ASKED = HOLDER + MOST;
+        private static final int QUEUES = HAS_ASKED + MOST;
+        private static final int QUEUE_PART = 1 + MOST;
+
+        private static final int LETTERS = QUEUES + MOST * QUEUE_PART;
+        private static final int PAIR_PART = 1 + MOST_UNDER_WAY;
 
         static final int ALIKE = LETTERS + MOST * MOST * PAIR_PART;
         static final int SENT = ALIKE;
@@ -284,6 +296,7 @@ public final class KeyKeepers {
         final int[] row;
         int way;
         int n;
+        /** Whether a letter of the latest act found no room. */
         boolean tooMany;
 
         Stand() {
@@ -301,7 +314,6 @@ public final class KeyKeepers {
         void startAnew(int newWay, int newN) {
             way = newWay;
             n = newN;
-            tooMany = false;
             Arrays.fill(row, 0);
             // By TOKEN the place of the token is 0, that of keeper 0; the other ways don't use it.
             for (int i = 1; i < n && way == TREE; i++) {
@@ -329,11 +341,33 @@ public final class KeyKeepers {
         }
 
         int of(int i, int field) {
-            return get(i * KEEPER_PART + field);
+            return get(field + i);
         }
 
         void set(int i, int field, int value) {
-            put(i * KEEPER_PART + field, value);
+            put(field + i, value);
+        }
+
+        int known(int i, int j) {
+            return get(KNOWN + i * MOST + j);
+        }
+
+        void setKnown(int i, int j, int times) {
+            put(KNOWN + i * MOST + j, times);
+        }
+
+        static int queueOf(int i) {
+            return QUEUES + i * QUEUE_PART;
+        }
+
+        /** Where the fields of the way begin. */
+        int wayFrom() {
+            return way == ASKING ? CLOCK : way == TOKEN ? PLACE : PARENT;
+        }
+
+        /** Behind the fields of the way. */
+        int wayTo() {
+            return way == ASKING ? PLACE : way == TOKEN ? PARENT : LETTERS;
         }
 
         /** Puts a value behind the list at k, if its most places leave room. */
@@ -375,21 +409,21 @@ public final class KeyKeepers {
             return false;
         }
 
-        private static int pairAt(int i, int j) {
+        static int lettersOf(int i, int j) {
             return LETTERS + (i * MOST + j) * PAIR_PART;
         }
 
         int underWay(int i, int j) {
-            return get(pairAt(i, j));
+            return get(lettersOf(i, j));
         }
 
         int letterAt(int i, int j, int k) {
-            return get(pairAt(i, j) + 1 + k);
+            return get(lettersOf(i, j) + 1 + k);
         }
 
         /** Sends a letter; what finds no room is remembered, as the whole act is none then. */
         void send(int i, int j, int kind, int number) {
-            if (!append(pairAt(i, j), MOST_UNDER_WAY, number << 2 | kind)) {
+            if (!append(lettersOf(i, j), MOST_UNDER_WAY, number << 2 | kind)) {
                 tooMany = true;
             }
             put(SENT + kind, get(SENT + kind) + 1);
@@ -404,7 +438,7 @@ public final class KeyKeepers {
         }
 
         int takeLetter(int i, int j) {
-            return takeFirst(pairAt(i, j), MOST_UNDER_WAY);
+            return takeFirst(lettersOf(i, j), MOST_UNDER_WAY);
         }
 
         int sentInAll() {
@@ -623,13 +657,13 @@ public final class KeyKeepers {
                 enter(i);
                 return;
             }
-            int times = stand.of(i, Stand.KNOWN + i) + 1;
-            stand.set(i, Stand.KNOWN + i, times);
+            int times = stand.known(i, i) + 1;
+            stand.setKnown(i, i, times);
             stand.sendToOthers(i, ASKED, times);
         }
 
         private void askedByToken(int i, int from, int times) {
-            stand.set(i, Stand.KNOWN + from, Math.max(stand.of(i, Stand.KNOWN + from), times));
+            stand.setKnown(i, from, Math.max(stand.known(i, from), times));
             if (stand.hasToken(i) && stand.of(i, Stand.MODE) == IDLE && isDue(i, from)) {
                 passToken(i, from);
             }
@@ -637,7 +671,7 @@ public final class KeyKeepers {
 
         /** Whether keeper i knows of one asking of j that the token does not tell. */
         private boolean isDue(int i, int j) {
-            return stand.of(i, Stand.KNOWN + j) == stand.get(Stand.STANDS + j) + 1;
+            return stand.known(i, j) == stand.get(Stand.STANDS + j) + 1;
         }
 
         private void passToken(int i, int j) {
@@ -646,7 +680,7 @@ public final class KeyKeepers {
         }
 
         private void leftByToken(int i) {
-            stand.put(Stand.STANDS + i, stand.of(i, Stand.KNOWN + i));
+            stand.put(Stand.STANDS + i, stand.known(i, i));
             for (int j = 0; j < stand.n; j++) {
                 if (!stand.rowHas(j) && isDue(i, j)) {
                     stand.append(Stand.ROW, Stand.MOST, j);
@@ -659,14 +693,14 @@ public final class KeyKeepers {
 
         private void queue(int i, int j) {
             // A keeper stands at most once in a queue, so there is always room.
-            stand.append(i * Stand.KEEPER_PART + Stand.QUEUE, Stand.MOST, j);
+            stand.append(Stand.queueOf(i), Stand.MOST, j);
         }
 
         /** THE RULES of the document, by TREE. */
         private void followRules(int i) {
             boolean isIn = stand.of(i, Stand.MODE) == IN;
-            if (stand.hasToken(i) && !isIn && stand.of(i, Stand.QUEUE) > 0) {
-                int first = stand.takeFirst(i * Stand.KEEPER_PART + Stand.QUEUE, Stand.MOST);
+            if (stand.hasToken(i) && !isIn && stand.get(Stand.queueOf(i)) > 0) {
+                int first = stand.takeFirst(Stand.queueOf(i), Stand.MOST);
                 stand.set(i, Stand.HOLDER, first);
                 stand.set(i, Stand.HAS_ASKED, 0);
                 if (first == i) {
@@ -676,7 +710,7 @@ public final class KeyKeepers {
                 }
             }
             boolean hasAsked = stand.of(i, Stand.HAS_ASKED) != 0;
-            if (!stand.hasToken(i) && stand.of(i, Stand.QUEUE) > 0 && !hasAsked) {
+            if (!stand.hasToken(i) && stand.get(Stand.queueOf(i)) > 0 && !hasAsked) {
                 stand.send(i, stand.of(i, Stand.HOLDER), ASKED, 0);
                 stand.set(i, Stand.HAS_ASKED, 1);
             }
@@ -868,9 +902,29 @@ public final class KeyKeepers {
             if (k < 0 || k >= hashes.length || hashes[k] != hash) {
                 return false;
             }
+            if (!isLike(k, Stand.MODE, Stand.CLOCK) || !isLike(k, stand.wayFrom(), stand.wayTo())) {
+                return false;
+            }
+            for (int i = 0; i < stand.n; i++) {
+                for (int j = 0; j < stand.n; j++) {
+                    int from = Stand.lettersOf(i, j);
+                    if (!isLike(k, from, from + 1 + stand.underWay(i, j))) {
+                        return false;
+                    }
+                }
+            }
+            return true;
+        }
+
+        /** Whether a part of the row is as in state k. */
+        private boolean isLike(int k, int from, int to) {
+            int[] row = stand.row;
             int at = k * Stand.ALIKE;
-            for (int place = 0; place < Stand.ALIKE && at + place < states.length; place++) {
-                if (states[at + place] != stand.get(place)) {
+            if (from < 0 || to > row.length || at < 0 || at > states.length - to) {
+                return false;
+            }
+            for (int place = from; place < to; place++) {
+                if (states[at + place] != row[place]) {
                     return false;
                 }
             }
@@ -878,21 +932,24 @@ public final class KeyKeepers {
         }
 
         private int hash() {
-            int hash = 0;
-            for (int place = 0; place < Stand.LETTERS; place++) {
-                hash = hash * 31 + stand.get(place);
-            }
+            int hash = mixed(0, Stand.MODE, Stand.CLOCK);
+            hash = mixed(hash, stand.wayFrom(), stand.wayTo());
             for (int i = 0; i < stand.n; i++) {
                 for (int j = 0; j < stand.n; j++) {
-                    int many = stand.underWay(i, j);
-                    // The count, too: a letter may be 0, so that places alone would hash a lot alike.
-                    hash = hash * 31 + many;
-                    for (int k = 0; k < many && k < Stand.MOST_UNDER_WAY; k++) {
-                        hash = hash * 31 + stand.letterAt(i, j, k);
-                    }
+                    int from = Stand.lettersOf(i, j);
+                    hash = mixed(hash, from, from + 1 + stand.underWay(i, j));
                 }
             }
             return hash ^ hash >>> 16;
+        }
+
+        private int mixed(int hash, int from, int to) {
+            int[] row = stand.row;
+            int mixed = hash;
+            for (int place = Math.max(from, 0); place < to && place < row.length; place++) {
+                mixed = mixed * 31 + row[place];
+            }
+            return mixed;
         }
     }
 }
