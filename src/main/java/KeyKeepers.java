@@ -142,21 +142,23 @@ public final class KeyKeepers {
     }
 
     public int knows(int i, int j) {
-        if (!stand.isKeeper(i) || j < 0 || stand.way == TOKEN && !stand.isKeeper(j)) {
-            return BAD;
-        }
+        // NONE stands before BAD here, other than elsewhere: by ASKING it is NONE, whatever i and j are.
         if (stand.way == ASKING) {
             return NONE;
+        }
+        if (!stand.isKeeper(i) || stand.way == TOKEN && !stand.isKeeper(j)) {
+            return BAD;
         }
         if (stand.way == TOKEN) {
             return stand.known(i, j);
         }
         int queue = Stand.queueOf(i);
-        return j < stand.get(queue) ? stand.get(queue + 1 + j) : NONE;
+        return j >= 0 && j < stand.get(queue) ? stand.get(queue + 1 + j) : NONE;
     }
 
     public int token(int what, int k) {
-        if (what < 0 || what > 1 || k < 0 || what == 0 && !stand.isKeeper(k)) {
+        // A place that the ROW could not have, for want of keepers, is BAD like a keeper that there is not.
+        if (what < 0 || what > 1 || !stand.isKeeper(k)) {
             return BAD;
         }
         if (stand.way != TOKEN) {

@@ -466,21 +466,21 @@ final class Model {
     }
 
     int knows(int i, int j) {
-        if (!isKeeper(i) || j < 0) {
-            return BAD;
-        }
-        Keeper k = world.keepers.get(i);
         if (world.way == 0) {
             return NONE;
         }
+        if (!isKeeper(i)) {
+            return BAD;
+        }
+        Keeper k = world.keepers.get(i);
         if (world.way == 1) {
             return k.known.getOrDefault(j, BAD);
         }
-        return j < k.queue.size() ? k.queue.get(j) : NONE;
+        return 0 <= j && j < k.queue.size() ? k.queue.get(j) : NONE;
     }
 
     int token(int what, int k) {
-        if (what != 0 && what != 1 || k < 0 || what == 0 && !isKeeper(k)) {
+        if (what != 0 && what != 1 || !isKeeper(k)) {
             return BAD;
         }
         if (world.way != 1) {

@@ -358,11 +358,21 @@ public final class PromisesTest {
         due("9 second", y.knows(0, 1), 1);
         due("9 no place", y.knows(0, 2), NONE);
         due("9 far place", y.knows(0, 1000), NONE);
-        due("9 place -1", y.knows(0, -1), BAD);
+        due("9 place -1", y.knows(0, -1), NONE);
+        due("9 least place", y.knows(0, Integer.MIN_VALUE), NONE);
         due("9 i 3 by TREE", y.knows(3, 0), BAD);
+        due("9 i -1 by TREE", y.knows(-1, 0), BAD);
         KeyKeepers z = new KeyKeepers();
-        due("9 by ASKING", z.knows(1, 1), NONE);
-        due("9 i 2 by ASKING", z.knows(2, 0), BAD);
+        int[] numbers = {Integer.MIN_VALUE, -1, 0, 1, 2, 6, Integer.MAX_VALUE};
+        for (int i : numbers) {
+            for (int j : numbers) {
+                due("9 by ASKING, " + i + ", " + j, z.knows(i, j), NONE);
+            }
+        }
+        z.want(1);
+        due("9 by ASKING, one waits", z.knows(2, 0), NONE);
+        due("9 TOKEN again", z.begin(TOKEN, 2), 2);
+        due("9 i 2 by TOKEN", z.knows(2, 0), BAD);
     }
 
     private static void promise10Token() {
@@ -372,6 +382,9 @@ public final class PromisesTest {
         due("10 k -1", x.token(0, -1), BAD);
         due("10 k 4", x.token(0, 4), BAD);
         due("10 place -1", x.token(1, -1), BAD);
+        due("10 place 4 of 4 keepers", x.token(1, 4), BAD);
+        due("10 place 3 of 4 keepers", x.token(1, 3), NONE);
+        due("10 greatest place", x.token(1, Integer.MAX_VALUE), BAD);
         due("10 empty", x.token(1, 0), NONE);
         x.want(0);
         for (int i = 3; i > 0; i--) {
@@ -388,9 +401,18 @@ public final class PromisesTest {
         x.leave(1);
         due("10 stands", x.token(0, 1), 1);
         due("10 goes from the row", x.token(1, 0), 3);
-        due("10 by ASKING", made(ASKING, 3).token(0, 0), NO);
-        due("10 by TREE", made(TREE, 3).token(1, 0), NO);
-        due("10 BAD first", made(TREE, 3).token(0, 3), BAD);
+        notByToken(new KeyKeepers(), 2);
+        notByToken(made(ASKING, 3), 3);
+        notByToken(made(TREE, 6), 6);
+    }
+
+    private static void notByToken(KeyKeepers x, int n) {
+        for (int what = -1; what <= 2; what++) {
+            for (int k = -1; k <= n + 1; k++) {
+                boolean told = (what == 0 || what == 1) && k >= 0 && k < n;
+                due("10 token(" + what + ", " + k + ") of " + n, x.token(what, k), told ? NO : BAD);
+            }
+        }
     }
 
     private static void promise11Letter() {
