@@ -142,15 +142,16 @@ public final class KeyKeepers {
     }
 
     public int knows(int i, int j) {
-        // NONE stands before BAD here, other than elsewhere: by ASKING it is NONE, whatever i and j are.
+        // NONE stands before BAD here, other than elsewhere: by ASKING it is NONE, whatever i and j are,
+        // and by the other ways for each j that is no place of what keeper i has.
         if (stand.way == ASKING) {
             return NONE;
         }
-        if (!stand.isKeeper(i) || stand.way == TOKEN && !stand.isKeeper(j)) {
+        if (!stand.isKeeper(i)) {
             return BAD;
         }
         if (stand.way == TOKEN) {
-            return stand.known(i, j);
+            return stand.isKeeper(j) ? stand.known(i, j) : NONE;
         }
         int queue = Stand.queueOf(i);
         return j >= 0 && j < stand.get(queue) ? stand.get(queue + 1 + j) : NONE;

@@ -474,7 +474,7 @@ final class Model {
         }
         Keeper k = world.keepers.get(i);
         if (world.way == 1) {
-            return k.known.getOrDefault(j, BAD);
+            return k.known.getOrDefault(j, NONE);
         }
         return 0 <= j && j < k.queue.size() ? k.queue.get(j) : NONE;
     }

@@ -330,8 +330,13 @@ public final class PromisesTest {
         KeyKeepers x = made(TOKEN, 3);
         due("9 i -1", x.knows(-1, 0), BAD);
         due("9 i 3", x.knows(3, 0), BAD);
-        due("9 j -1", x.knows(0, -1), BAD);
-        due("9 j 3", x.knows(0, 3), BAD);
+        int[] noPlaces = {Integer.MIN_VALUE, -1, 3, 6, Integer.MAX_VALUE};
+        for (int j : noPlaces) {
+            for (int i = 0; i < 3; i++) {
+                due("9 by TOKEN, " + i + ", " + j, x.knows(i, j), NONE);
+            }
+        }
+        due("9 the last place", x.knows(0, 2), 0);
         x.want(2);
         due("9 of itself", x.knows(2, 2), 1);
         due("9 not yet", x.knows(0, 2), 0);
@@ -373,6 +378,8 @@ public final class PromisesTest {
         due("9 by ASKING, one waits", z.knows(2, 0), NONE);
         due("9 TOKEN again", z.begin(TOKEN, 2), 2);
         due("9 i 2 by TOKEN", z.knows(2, 0), BAD);
+        due("9 j 2 by TOKEN", z.knows(0, 2), NONE);
+        due("9 j 1 by TOKEN", z.knows(0, 1), 0);
     }
 
     private static void promise10Token() {
