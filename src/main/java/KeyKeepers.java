@@ -142,13 +142,10 @@ public final class KeyKeepers {
     }
 
     public int knows(int i, int j) {
-        // NONE stands before BAD here, other than elsewhere: by ASKING it is NONE, whatever i and j are,
-        // and by the other ways for each j that is no place of what keeper i has.
-        if (stand.way == ASKING) {
+        // NONE stands before BAD here, other than elsewhere: i and j name the place together, so whatever is
+        // wrong with one of them, there is no such place.
+        if (stand.way == ASKING || !stand.isKeeper(i)) {
             return NONE;
-        }
-        if (!stand.isKeeper(i)) {
-            return BAD;
         }
         if (stand.way == TOKEN) {
             return stand.isKeeper(j) ? stand.known(i, j) : NONE;

@@ -466,11 +466,8 @@ final class Model {
     }
 
     int knows(int i, int j) {
-        if (world.way == 0) {
+        if (world.way == 0 || !isKeeper(i)) {
             return NONE;
-        }
-        if (!isKeeper(i)) {
-            return BAD;
         }
         Keeper k = world.keepers.get(i);
         if (world.way == 1) {

@@ -328,13 +328,13 @@ public final class PromisesTest {
 
     private static void promise9Knows() {
         KeyKeepers x = made(TOKEN, 3);
-        due("9 i -1", x.knows(-1, 0), BAD);
-        due("9 i 3", x.knows(3, 0), BAD);
-        int[] noPlaces = {Integer.MIN_VALUE, -1, 3, 6, Integer.MAX_VALUE};
-        for (int j : noPlaces) {
+        int[] nobodies = {Integer.MIN_VALUE, -1, 3, 6, Integer.MAX_VALUE};
+        for (int nobody : nobodies) {
             for (int i = 0; i < 3; i++) {
-                due("9 by TOKEN, " + i + ", " + j, x.knows(i, j), NONE);
+                due("9 by TOKEN, " + i + ", " + nobody, x.knows(i, nobody), NONE);
+                due("9 by TOKEN, " + nobody + ", " + i, x.knows(nobody, i), NONE);
             }
+            due("9 by TOKEN, twice " + nobody, x.knows(nobody, nobody), NONE);
         }
         due("9 the last place", x.knows(0, 2), 0);
         x.want(2);
@@ -365,8 +365,11 @@ public final class PromisesTest {
         due("9 far place", y.knows(0, 1000), NONE);
         due("9 place -1", y.knows(0, -1), NONE);
         due("9 least place", y.knows(0, Integer.MIN_VALUE), NONE);
-        due("9 i 3 by TREE", y.knows(3, 0), BAD);
-        due("9 i -1 by TREE", y.knows(-1, 0), BAD);
+        for (int nobody : nobodies) {
+            due("9 by TREE, place 0 of " + nobody, y.knows(nobody, 0), NONE);
+            due("9 by TREE, place -1 of " + nobody, y.knows(nobody, -1), NONE);
+            due("9 by TREE, place 6 of " + nobody, y.knows(nobody, 6), NONE);
+        }
         KeyKeepers z = new KeyKeepers();
         int[] numbers = {Integer.MIN_VALUE, -1, 0, 1, 2, 6, Integer.MAX_VALUE};
         for (int i : numbers) {
@@ -377,7 +380,7 @@ public final class PromisesTest {
         z.want(1);
         due("9 by ASKING, one waits", z.knows(2, 0), NONE);
         due("9 TOKEN again", z.begin(TOKEN, 2), 2);
-        due("9 i 2 by TOKEN", z.knows(2, 0), BAD);
+        due("9 i 2 by TOKEN", z.knows(2, 0), NONE);
         due("9 j 2 by TOKEN", z.knows(0, 2), NONE);
         due("9 j 1 by TOKEN", z.knows(0, 1), 0);
     }
