@@ -67,8 +67,10 @@ public final class LanguageTest {
     private static void insides() {
         Class<?>[] insides = KeyKeepers.class.getDeclaredClasses();
         holds("some twelve classes at most", insides.length < 12);
+        methods(KeyKeepers.class);
         for (Class<?> inside : insides) {
             holds(inside + " is static", Modifier.isStatic(inside.getModifiers()));
+            methods(inside);
             int fields = 0;
             for (Field field : inside.getDeclaredFields()) {
                 boolean isStatic = Modifier.isStatic(field.getModifiers());
@@ -79,7 +81,36 @@ public final class LanguageTest {
         }
     }
 
+    private static void methods(Class<?> owner) {
+        for (Method method : owner.getDeclaredMethods()) {
+            holds(method + " takes seven parameters at most", method.getParameterCount() <= 7);
+            boolean isPublicName = FACE.matches("(.* )?" + method.getName() + "\\(.*");
+            holds(method + " bears no public name", owner == KeyKeepers.class || !isPublicName);
+        }
+    }
+
+    /** A method begins by a line that ends with its brackets and a brace, and ends by a brace that stands as far inside. */
+    private static void lengths(String source) {
+        Pattern begins = Pattern.compile("( {4}| {8})(?!if |for |while |switch |do )\\w[^=]*\\(.*\\) \\{");
+        String[] lines = source.split("\n");
+        int methods = 0;
+        for (int from = 0; from < lines.length; from++) {
+            Matcher matcher = begins.matcher(lines[from]);
+            if (!matcher.matches()) {
+                continue;
+            }
+            int to = from;
+            while (to < lines.length && !lines[to].equals(matcher.group(1) + "}")) {
+                to++;
+            }
+            methods++;
+            holds(lines[from].trim() + " has some sixty lines at most", to - from < 60);
+        }
+        holds("all methods were seen, not " + methods, methods > 50);
+    }
+
     private static void text(String source) {
+        lengths(source);
         String code = source.replaceAll("(?s)/\\*.*?\\*/", "").replaceAll("//[^\n]*", "");
         String[] none = {"throw", "throws", "try", "catch", "finally", "synchronized", "assert", "import static",
             "instanceof", "System\\.(?!arraycopy)", "Math\\.(?!max|min)", "Integer\\.(?!bitCount)",
